@@ -13,6 +13,7 @@ public final class DoneTest {
         undoEach();
         undoIsARing();
         refusedIsNotUndone();
+        upToTheMost();
         CHECK.end();
     }
 
@@ -245,6 +246,30 @@ public final class DoneTest {
         CHECK.due("15 now(3) anew", p.now(3), 1);
         CHECK.due("15 undo anew", p.undo(), 0);
         CHECK.holds("15 state anew", states[22].equals(state(p)));
+    }
+
+    /** An object is used for 512 calls at most, so nobody but this test comes so far. */
+    private static void upToTheMost() {
+        TwoPrints p = Check.told("l6;");
+        for (int n = 0; n < 999; n++) {
+            p.walks(0, 0);
+        }
+        CHECK.due("9 WALKS", p.walker(0, 3), 999);
+        CHECK.due("9 no more of them", p.walks(0, 0), TwoPrints.STATE);
+        CHECK.due("9 BAD ahead of STATE", p.walks(0, 2), TwoPrints.BAD);
+        CHECK.due("9 limping neither", p.walks(0, 1), TwoPrints.STATE);
+        CHECK.due("9 the other one well", p.walks(1, 0), 3);
+        p.snows();
+        CHECK.due("9 behind snow again", p.walks(0, 0), 3);
+        for (int n = 0; n < 3400; n++) {
+            p.snows();
+            p.walks(1, 0);
+            p.gives(0, 0);
+            p.gives(0, 3);
+            p.gives(0, 6);
+            p.walks(1, 0);
+        }
+        CHECK.due("9 TAKEN at most", p.walker(1, 6), 9999);
     }
 
     private static void refusedIsNotUndone() {

@@ -91,6 +91,16 @@ public final class PathTest {
         CHECK.due("4 PLANK", p.count(2), 0);
         CHECK.due("4 TURN", p.count(3), 2);
         CHECK.due("4 STRIDE", p.walker(1, 1), 3);
+        CHECK.due("4 and so again", p.path(), 0);
+        for (int what = 0; what < 4; what++) {
+            CHECK.due("4 again count(" + what + ")", p.count(what), new TwoPrints().count(what));
+        }
+        for (int k = 0; k < 2; k++) {
+            for (int what = 0; what < 3; what++) {
+                CHECK.due("4 again walker(" + k + ", " + what + ")", p.walker(k, what), what == 0 ? 0 : 3);
+            }
+        }
+        CHECK.due("4 again TRACKS", p.both(10), 30);
         CHECK.due("4 blanks alone", Check.read("   "), 0);
         CHECK.due("4 no blanks", Check.read("l5;b5;p5;t1;"), 4);
         CHECK.due("4 lowest numbers", Check.read("l5;w0 0 2 1;b0;p0;t1;"), 5);
@@ -204,6 +214,8 @@ public final class PathTest {
                 CHECK.due("5 walker(" + k + ", " + what + ")", p.walker(k, what), due[k][what]);
             }
         }
+        p.rains(8);
+        CHECK.due("5 the shallowest PRINTS count", p.walker(0, 4), 4);
         CHECK.due("5 walker(-1, 0)", p.walker(-1, 0), TwoPrints.BAD);
         CHECK.due("5 walker(2, 0)", p.walker(2, 0), TwoPrints.BAD);
         CHECK.due("5 walker(0, -1)", p.walker(0, -1), TwoPrints.BAD);
@@ -251,6 +263,11 @@ public final class PathTest {
         p.walks(0, 0);
         CHECK.due("8 as many", p.now(2), TwoPrints.NONE);
         CHECK.due("8 eight at most", p.now(3), 8);
+        TwoPrints onlyTheStart = Check.told("l5;w0 0 5 1;w1 0 4 1;");
+        onlyTheStart.walks(0, 0);
+        onlyTheStart.walks(1, 0);
+        CHECK.due("8 of both on foot 0 alone", onlyTheStart.now(0), 1);
+        CHECK.due("8 and peace is for foot 0", onlyTheStart.now(1), 9);
         CHECK.due("8 now(-1)", p.now(-1), TwoPrints.BAD);
         CHECK.due("8 now(4)", p.now(4), TwoPrints.BAD);
     }

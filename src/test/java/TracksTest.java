@@ -11,6 +11,7 @@ public final class TracksTest {
         childOnFewPrints();
         childRows();
         childManyWays();
+        atTheEdges();
         childWrong();
         CHECK.end();
     }
@@ -185,6 +186,41 @@ public final class TracksTest {
         CHECK.due("21 C(9, 2) ways to lack two steps, twice", p.child(9, -2), 2 * (8 * 9 / 2));
         CHECK.due("21 as low as it can stay", p.child(9, 1), 104);
         CHECK.due("21 then by 8 again and again", p.child(9, 2), 12);
+        // both tread on nearly each foot: there are 24093536856 rows
+        TwoPrints more = Check.told("l60;w0 0 2 1;w1 1 2 1;");
+        for (int k = 0; k < 2; k++) {
+            more.walks(k, 0);
+            more.walks(k, 1);
+        }
+        CHECK.due("21 forty jumps", more.child(2, -1), 40);
+        CHECK.due("21 modulo 1000003", more.child(2, -2), (int) (24093536856L % 1000003));
+    }
+
+    /** Where a print is on the lowest or the highest foot that there is, or is the shallowest. */
+    private static void atTheEdges() {
+        TwoPrints p = Check.told("l60;w0 0 5 1;w1 0 6 1;");
+        p.walks(0, 0);
+        p.walks(1, 0);
+        p.rains(8);
+        for (int x = 1; x < 60; x++) {
+            p.fills(0, x);
+            p.fills(1, x);
+        }
+        CHECK.due("20 on foot 0 and on 60", p.jumps(0, 0), 2);
+        CHECK.due("20 all twos", p.jumps(60, 0), 4);
+        CHECK.due("20 all but the far ones", p.jumps(59, 0), 2);
+        CHECK.due("20 the first is on foot 0", p.jumps(60, 1), 0);
+        CHECK.due("19 the shallowest count", p.left(0, 0), 2);
+        CHECK.due("19 by rain of 1 they are gone", p.left(0, 1), 0);
+        CHECK.due("8 they are of both", p.now(0), 2);
+        CHECK.due("8 and gone by rain of 1", p.now(1), 1);
+        childIs("from foot 0 to 60", p, 60, 2, 1, 0, 160, -5);
+        childIs("59 is too short", p, 59, 0, -9, -9);
+        p.fills(0, 0);
+        CHECK.due("20 the first is 60, 0", p.jumps(60, 1), 6000);
+        childIs("from 1's print", p, 60, 1, 1, 100, 60, -5);
+        p.cows(58);
+        childIs("on foot 0 alone", p, 0, 1, 0, 100, -5);
     }
 
     private static void childWrong() {
