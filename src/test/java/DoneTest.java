@@ -187,20 +187,6 @@ public final class DoneTest {
         CHECK.due("14 it stays", rained.gift(0, 6), 1);
     }
 
-    /** All that can be undone, in figures. */
-    private static String state(TwoPrints p) {
-        StringBuilder all = new StringBuilder();
-        for (int k = 0; k < 2; k++) {
-            for (int what = 3; what <= 6; what++) {
-                all.append(p.walker(k, what)).append(' ');
-            }
-            for (int x = 0; x <= p.count(0); x++) {
-                all.append(p.depth(k, x)).append(p.gift(k, x));
-            }
-        }
-        return all.toString();
-    }
-
     private static int done(TwoPrints p, int which) {
         switch (which) {
             case 0: return p.walks(0, 1);
@@ -220,11 +206,11 @@ public final class DoneTest {
             p.gives(1, 0);
             p.gives(1, 6);
             p.gives(0, 4);
-            String before = state(p);
+            String before = Whole.undoable(p);
             CHECK.holds("15 it is not refused " + which, done(p, which) >= 0);
-            CHECK.holds("15 it changes something " + which, !before.equals(state(p)));
+            CHECK.holds("15 it changes something " + which, !before.equals(Whole.undoable(p)));
             CHECK.due("15 undo " + which, p.undo(), 5);
-            CHECK.holds("15 all is undone " + which, before.equals(state(p)));
+            CHECK.holds("15 all is undone " + which, before.equals(Whole.undoable(p)));
         }
     }
 
@@ -232,20 +218,20 @@ public final class DoneTest {
         TwoPrints p = Check.told("l12;");
         String[] states = new String[31];
         for (int i = 0; i < 30; i++) {
-            states[i] = state(p);
+            states[i] = Whole.undoable(p);
             done(p, i % 4);
             CHECK.due("15 may be undone", p.now(3), Math.min(8, i + 1));
         }
         for (int n = 7; n >= 0; n--) {
             CHECK.due("15 undo", p.undo(), n);
-            CHECK.holds("15 state " + n, states[22 + n].equals(state(p)));
+            CHECK.holds("15 state " + n, states[22 + n].equals(Whole.undoable(p)));
         }
         CHECK.due("15 older ones are lost", p.undo(), TwoPrints.STATE);
-        CHECK.holds("15 nothing changes", states[22].equals(state(p)));
+        CHECK.holds("15 nothing changes", states[22].equals(Whole.undoable(p)));
         p.rains(1);
         CHECK.due("15 now(3) anew", p.now(3), 1);
         CHECK.due("15 undo anew", p.undo(), 0);
-        CHECK.holds("15 state anew", states[22].equals(state(p)));
+        CHECK.holds("15 state anew", states[22].equals(Whole.undoable(p)));
     }
 
     /** An object is used for 512 calls at most, so nobody but this test comes so far. */

@@ -11,7 +11,8 @@ public final class ModelTest {
     private static final int RUNS = 400;
     private static final int CALLS = 512;
     private static final Check CHECK = new Check();
-    private static final int[] ODD_NUMBERS = {Integer.MIN_VALUE, Integer.MAX_VALUE, -1000000, -3, -2, -1, 61, 64, 100, 200, 256};
+    private static final int[] ODD_NUMBERS = {Integer.MIN_VALUE, Integer.MAX_VALUE, -1000000, -3, -2, -1, 60, 61, 64, 99,
+        100, 199, 200, 255, 256};
 
     private final Random random;
     private final TwoPrints real = new TwoPrints();
@@ -89,6 +90,8 @@ public final class ModelTest {
             case 4: case 5: return random.nextInt(31);
             case 6: case 7: case 8: return random.nextInt(11);
             case 9: return -random.nextInt(3);
+            // the last feet, and the first beyond them
+            case 10: return naive.count(0) + random.nextInt(5) - 2;
             default: return random.nextInt(3);
         }
     }
