@@ -56,16 +56,20 @@ public final class ModelTest {
     }
 
     private void run(Method[] face) throws ReflectiveOperationException {
-        int calls = 0;
-        while (calls < CALLS) {
+        while (told.size() < CALLS) {
             int dice = random.nextInt(100);
             if (dice < 1) {
-                for (char letter : text().toCharArray()) {
-                    same(TwoPrints.class.getMethod("type", int.class), (int) letter);
-                    calls++;
+                // letters typed by chance would make a fault of most texts
+                if (random.nextInt(4) > 0) {
+                    same("clear");
                 }
-                same(TwoPrints.class.getMethod("path"));
-                calls++;
+                for (char letter : text().toCharArray()) {
+                    same("type", (int) letter);
+                }
+                same("path");
+                lookAround();
+            } else if (dice < 30) {
+                deed();
             } else {
                 Method method = face[random.nextInt(face.length)];
                 // a path told too often would leave no time for anything else
@@ -77,9 +81,36 @@ public final class ModelTest {
                     arguments[i] = number();
                 }
                 same(method, arguments);
-                calls++;
             }
         }
+    }
+
+    /** By numbers that mostly may be: by any numbers gifts would hardly ever be laid, and never taken. */
+    private void deed() throws ReflectiveOperationException {
+        int k = random.nextInt(2);
+        int foot = random.nextInt(naive.count(0) + 1);
+        switch (random.nextInt(12)) {
+            case 0: case 1: same("walks", k, random.nextInt(2)); break;
+            case 2: same("rains", 1 + random.nextInt(4)); break;
+            case 3: same("cows", foot); break;
+            case 4: same("fills", k, foot); break;
+            case 5: same("undo"); break;
+            case 6: same(random.nextBoolean() ? "keep" : "back", random.nextInt(2)); break;
+            default: same("gives", k, foot);
+        }
+        if (random.nextInt(6) == 0) {
+            lookAround();
+        }
+    }
+
+    private void lookAround() throws ReflectiveOperationException {
+        for (int k = 0; k < 2; k++) {
+            for (int what = 3; what <= 6; what++) {
+                same("walker", k, what);
+            }
+        }
+        same("now", 2);
+        same("now", 3);
     }
 
     private int number() {
@@ -126,7 +157,16 @@ public final class ModelTest {
         return text.toString();
     }
 
+    private void same(String name, Object... arguments) throws ReflectiveOperationException {
+        Class<?>[] types = new Class<?>[arguments.length];
+        Arrays.fill(types, int.class);
+        same(TwoPrints.class.getMethod(name, types), arguments);
+    }
+
     private void same(Method method, Object... arguments) throws ReflectiveOperationException {
+        if (told.size() >= CALLS) {
+            return;
+        }
         String call = method.getName() + Arrays.toString(arguments);
         told.add(call);
         Method other = NaivePrints.class.getDeclaredMethod(method.getName(), method.getParameterTypes());
